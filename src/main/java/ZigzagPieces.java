@@ -702,18 +702,12 @@ public final class ZigzagPieces {
             if (!has(point)) {
                 return 0;
             }
-            int piece = 1 << point;
-            for (int far = 1; far < POINTS; far++) {
-                int grown = piece;
-                for (int p = 0; p < POINTS; p++) {
-                    if (isIn(piece, p)) {
-                        grown |= near[p];
-                    }
-                }
-                if (grown == piece) {
-                    break;
-                }
-                piece = grown;
+            int piece = 0;
+            int ahead = 1 << point;
+            for (int steps = 0; steps < POINTS && ahead != 0; steps++) {
+                int p = lowestOf(ahead);
+                piece |= 1 << p;
+                ahead = (ahead | nearOf(p)) & ~piece;
             }
             return piece;
         }
@@ -781,10 +775,8 @@ public final class ZigzagPieces {
 
         void part(int first, int second, int k) {
             for (int p = 0; p < POINTS; p++) {
-                for (int q = 0; q < POINTS; q++) {
-                    if (isIn(first, p) && isIn(second, q)) {
-                        setSince(p, q, k);
-                    }
+                if (isIn(first, p)) {
+                    setSinceOfAll(p, second, k);
                 }
             }
         }
@@ -821,10 +813,9 @@ public final class ZigzagPieces {
                 lowerRoots(Math.min(rootOf(a), rootOf(b)), joined);
             }
             for (int p = 0; p < POINTS; p++) {
-                for (int q = 0; q < POINTS; q++) {
-                    if (isIn(joined, p)) {
-                        setSince(p, q, Math.max(withFirst[q], withSecond[q]));
-                    } else if (withFirst[p] > met && withSecond[q] > met) {
+                setSinceOfAll(p, joined, Math.max(withFirst[p], withSecond[p]));
+                for (int q = 0; q < POINTS && withFirst[p] > met; q++) {
+                    if (withSecond[q] > met) {
                         setSince(p, q, Math.min(withFirst[p], withSecond[q]));
                     }
                 }
@@ -835,6 +826,15 @@ public final class ZigzagPieces {
             for (int p = 0; p < POINTS; p++) {
                 if (isIn(joined, p) || withFirst[p] > 0 || withSecond[p] > 0) {
                     roots[p] = root;
+                }
+            }
+        }
+
+        private void setSinceOfAll(int a, int others, int k) {
+            for (int q = 0; q < POINTS && isPoint(a); q++) {
+                if (isIn(others, q)) {
+                    since[a * POINTS + q] = k;
+                    since[q * POINTS + a] = k;
                 }
             }
         }
@@ -983,27 +983,25 @@ public final class ZigzagPieces {
         private void step(int act, int k) {
             int a = lowOf(act);
             int b = highOf(act);
+            boolean wereOne = isIn(net.pieceOf(a), b);
+            net.change(act);
+            boolean areOne = isIn(net.pieceOf(a), b);
             switch (kindOf(act)) {
                 case POINT_COMES:
-                    net.change(act);
                     kinship.come(a, k);
                     break;
                 case POINT_GOES:
-                    net.change(act);
                     bars.add(kinship.beginOfGoing(a, net.points()), k);
                     kinship.go(a);
                     break;
                 case EDGE_COMES:
-                    boolean apart = !isIn(net.pieceOf(a), b);
-                    net.change(act);
-                    if (apart) {
+                    if (!wereOne) {
                         bars.add(kinship.beginOfJoining(a, b), k);
                         kinship.join(a, b, net.pieceOf(a));
                     }
                     break;
                 default:
-                    net.change(act);
-                    if (!isIn(net.pieceOf(a), b)) {
+                    if (!areOne) {
                         kinship.part(net.pieceOf(a), net.pieceOf(b), k);
                     }
                     break;

@@ -11,6 +11,7 @@ import java.util.TreeSet;
 public final class ModelTest {
     private static final int RUNS = 1500;
     private static final int CALLS = 512;
+    private static final int ROWS = 3000;
     private static int checked = 0;
     private static int wrong = 0;
 
@@ -18,7 +19,9 @@ public final class ModelTest {
         for (int run = 0; run < RUNS; run++) {
             play(run);
         }
-        System.out.println("ModelTest: " + checked + " answers beside the model");
+        for (int run = 0; run < ROWS; run++) {
+            tellWhole(run);
+        }
         System.out.println("ModelTest: " + (checked - wrong) + " passed, " + wrong + " failed");
         if (wrong != 0 || checked == 0) {
             System.exit(1);
@@ -43,6 +46,38 @@ public final class ModelTest {
             int n = model.row.size();
             int[] with = arguments(method, chance, n, model);
             compare(run, call, method, with, real, model);
+        }
+    }
+
+    /** A long row in which pieces part and join again and again, then all that is told of it. */
+    private static void tellWhole(int run) {
+        Random chance = new Random(90000 + run);
+        ZigzagPieces real = new ZigzagPieces();
+        Model model = new Model();
+        compare(run, 0, "lay", new int[0], real, model);
+        int points = 4 + run % 6;
+        int shift = chance.nextInt(9);
+        for (int i = 0; i < points; i++) {
+            compare(run, 0, "act", new int[] {0, (i + shift) % 9, 0}, real, model);
+        }
+        int length = 20 + chance.nextInt(21);
+        for (int tries = 0; tries < 300 && model.row.size() < length; tries++) {
+            int kind = new int[] {0, 1, 2, 2, 2, 3, 3, 3}[chance.nextInt(8)];
+            int a = (chance.nextInt(points) + shift) % 9;
+            int b = (chance.nextInt(points) + shift) % 9;
+            if (kind < 2 || a != b) {
+                compare(run, tries, "act", new int[] {kind, a, b}, real, model);
+            }
+        }
+        for (int a = 0; a < 9; a++) {
+            compare(run, 0, "root", new int[] {a}, real, model);
+            for (int b = 0; b < 9; b++) {
+                compare(run, 0, "kin", new int[] {a, b}, real, model);
+            }
+        }
+        for (int i = -3; i < 41; i++) {
+            compare(run, 0, "bar", new int[] {i, 0}, real, model);
+            compare(run, 0, "bar", new int[] {i, 1}, real, model);
         }
     }
 
