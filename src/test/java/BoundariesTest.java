@@ -439,7 +439,8 @@ public final class BoundariesTest {
         run("lay:v0;v1;e01;f01;w0;v0; root(0)=6 kin(0,1)=NONE root(1)=1");
         run("lay:v0;v1;e01;f01;w1;v1; root(1)=6 kin(0,1)=NONE root(0)=1");
         // what was kin in another row is not in this one
-        run("lay:v0;v1;e01;f01; kin(0,1)=4 drop() drop() kin(0,1)=NONE lay:v0;v1; kin(0,1)=NONE");
+        run("lay:v0;v1;e01;f01; kin(0,1)=4 lay:v0;v1; kin(0,1)=NONE");
+        run("lay:v0;v1;e01;f01; kin(0,1)=4 drop() drop() kin(0,1)=NONE");
 
         sentence("An EDGE goes, and a PIECE falls into two by it: both have its ROOT, are KIN with "
             + "others as it was, and with one another since k.");
