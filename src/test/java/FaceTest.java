@@ -26,6 +26,7 @@ public final class FaceTest {
         fields();
         classesInside();
         source();
+        headings();
         room();
         System.out.println("FaceTest: " + passed + " passed, " + failed + " failed");
         if (failed != 0) {
@@ -92,7 +93,27 @@ public final class FaceTest {
             int how = one.getModifiers();
             holds(one + " is static", Modifier.isStatic(how));
             holds(one + " is not public", !Modifier.isPublic(how) && !Modifier.isProtected(how));
+            holds(one + " is not too wide", isNarrow(one));
+            for (Method method : one.getDeclaredMethods()) {
+                holds(one + ": no private method " + method.getName(),
+                    !Modifier.isPrivate(method.getModifiers())
+                    || FACE.stream().noneMatch(name -> name.startsWith(method.getName() + "(")));
+            }
         }
+        holds("the class is not too wide", isNarrow(ZigzagPieces.class));
+    }
+
+    /** At most twenty fields beside constants, and seven parameters of a method. */
+    private static boolean isNarrow(Class<?> one) {
+        int fields = 0;
+        for (Field field : one.getDeclaredFields()) {
+            fields += Modifier.isStatic(field.getModifiers()) ? 0 : 1;
+        }
+        boolean narrow = fields <= 20;
+        for (Method method : one.getDeclaredMethods()) {
+            narrow &= method.getParameterCount() <= 7;
+        }
+        return narrow;
     }
 
     private static void source() throws Exception {
@@ -113,6 +134,27 @@ public final class FaceTest {
         }
         holds("imports: " + imports, List.of("java.util.Arrays", "java.util.ArrayList",
             "java.util.List").containsAll(imports));
+    }
+
+    /** The document tells which heading stands ahead of which calls; the class has them so. */
+    private static void headings() throws Exception {
+        Path root = Path.of(System.getProperty("project.root", "."));
+        String document = Files.readString(root.resolve("../shared/DOC.md"));
+        StringBuilder due = new StringBuilder();
+        Matcher told = Pattern.compile("Ahead of the calls (.*) the interface says: ---- (\\w+)\\.")
+            .matcher(document);
+        while (told.find()) {
+            due.append("---- ").append(told.group(2)).append(' ');
+            due.append(told.group(1).replaceAll("[`,]", "")).append(' ');
+        }
+        String all = Files.readString(root.resolve("src/main/java/ZigzagPieces.java"));
+        StringBuilder found = new StringBuilder();
+        Matcher said = Pattern.compile("// (---- \\w+)\n|    public int (\\w+)\\(").matcher(all);
+        while (said.find()) {
+            found.append(said.group(1) != null ? said.group(1) : said.group(2)).append(' ');
+        }
+        holds("headings and calls in their order: " + found, due.length() > 0
+            && found.toString().equals(due.toString()));
     }
 
     /** Calls make next to nothing anew, so that a long run stays within its room. */
